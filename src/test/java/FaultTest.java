@@ -87,6 +87,7 @@ public final class FaultTest {
         wrong("- b", SIGN, 1, 1);
         wrong(".", SIGN, 1, 1);
         right("\n".repeat(600), 0);
+        right(" ".repeat(600), 0);
         wrong("\n".repeat(599) + "?", SIGN, 600, 1);
         wrong(" ".repeat(599) + "a", SIGN, 1, 601);
     }

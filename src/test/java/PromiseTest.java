@@ -300,6 +300,16 @@ public final class PromiseTest {
         for (int arc = 0; arc < due.length; arc++) {
             C.same("g " + arc, Checks.valueName(g, arc, 0), due[arc]);
         }
+        GraphTexts most = Checks.reading("% x w\n% y d\n% z t\n" + "a a 1 2 x\n".repeat(39) + "a a 7 0.5 last");
+        C.same("the VALUES of ARC 39 in w", most.value(39, 0), 7000);
+        C.same("the VALUES of ARC 39 in d", most.value(39, 1), 500);
+        C.same("the VALUES of ARC 39 in t", Checks.valueName(most, 39, 2), "last");
+        GraphTexts gaps = Checks.reading("% x w\n% y d\n% z t\n" + "a a - - -\n".repeat(40));
+        C.same("the MISSING of ARC 39", gaps.arc(39, 3), 3);
+        C.thrown("the VALUE of ARC 39", NULL, () -> gaps.value(39, 2));
+        GraphTexts left = Checks.reading("% c t\na b one\na b two\nb a three\nb a four\nb b five", 1);
+        C.same("behind one LEFT OUT", Checks.valueName(left, 1, 0), "three");
+        C.same("behind two LEFT OUT", Checks.valueName(left, 2, 0), "five");
         C.same("g WRITTEN", Checks.written(g), "% c t\na b \"-999.990\"\na b \"-0.0\"\na b x\na b \"-999999\"\na b 00\n"
             + "a b 12345678\na b 1\n");
     }

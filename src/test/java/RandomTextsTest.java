@@ -23,15 +23,24 @@ public final class RandomTextsTest {
 
     public static void main(String[] args) {
         Random random = new Random(20261116);
+        GraphTexts used = new GraphTexts();
+        String usedGraph = "";
         int accepted = 0;
         for (int round = 0; round < 60000; round++) {
             String text = text(random);
             for (int k = random.nextInt(3); k > 0; k--) {
                 text = spoiled(text, random);
             }
-            if (text.length() <= 600) {
-                accepted += tryText(text, random.nextInt(3), random);
+            if (text.length() > 600) {
+                continue;
             }
+            int manner = random.nextInt(3);
+            accepted += tryText(text, manner, random);
+            if (round % 5 == 0) {
+                used = new GraphTexts();
+                usedGraph = "";
+            }
+            usedGraph = tryAgain(used, usedGraph, text, manner);
         }
         C.same("enough texts are accepted", accepted > 10000 ? 1 : 0, 1);
         C.end();
@@ -58,6 +67,28 @@ public final class RandomTextsTest {
         }
         randomCalls(x, random);
         return 1;
+    }
+
+    /** An object that has read before reads as a new one does, and keeps its GRAPH when there is a FAULT. */
+    private static String tryAgain(GraphTexts used, String before, String text, int manner) {
+        GraphTexts fresh = new GraphTexts();
+        fresh.manner(manner);
+        used.manner(manner);
+        int due = Checks.read(fresh, text);
+        String what = "used again, manner " + manner + " <" + text + ">";
+        C.same(what, Checks.read(used, text), due);
+        C.same("LINE " + what, used.fault(0), fresh.fault(0));
+        C.same("PLACE " + what, used.fault(1), fresh.fault(1));
+        String graph = due < 0 ? before : Checks.graph(fresh);
+        C.same("GRAPH " + what, Checks.graph(used), graph);
+        if (due >= 0) {
+            C.same("LEFT OUT " + what, used.about(4), fresh.about(4));
+            C.same("WRITTEN " + what, Checks.written(used), Checks.written(fresh));
+            for (int arc = 0; arc < due; arc++) {
+                C.same("LINE of ARC " + arc + " " + what, used.arc(arc, 2), fresh.arc(arc, 2));
+            }
+        }
+        return graph;
     }
 
     private static void faultLiesInside(GraphTexts x, String text, int answer, String what) {
