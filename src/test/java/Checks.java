@@ -46,6 +46,37 @@ final class Checks {
         return due == ArrayIndexOutOfBoundsException.class ? "no such " : "the VALUE is ";
     }
 
+    /** A new object finds this FAULT in the text, has no GRAPH then, and no bytes left. */
+    void wrong(String text, int manner, int fault, int line, int place) {
+        GraphTexts x = new GraphTexts();
+        x.manner(manner);
+        String what = "read of <" + text + ">";
+        same(what, read(x, text), -10 - fault);
+        same(what + " LINE", x.fault(0), line);
+        same(what + " PLACE", x.fault(1), place);
+        same(what + " bytes left", x.about(0), 0);
+        same(what + " print", x.print(), GraphTexts.STATE);
+    }
+
+    void wrong(String text, int fault, int line, int place) {
+        wrong(text, 0, fault, line, place);
+    }
+
+    /** A new object reads the text without a FAULT. */
+    void right(String text, int manner, int arcs) {
+        GraphTexts x = new GraphTexts();
+        x.manner(manner);
+        String what = "read of <" + text + ">";
+        same(what, read(x, text), arcs);
+        same(what + " LINE", x.fault(0), GraphTexts.NONE);
+        same(what + " PLACE", x.fault(1), GraphTexts.NONE);
+        same(what + " bytes left", x.about(0), 0);
+    }
+
+    void right(String text, int arcs) {
+        right(text, 0, arcs);
+    }
+
     void end() {
         System.out.println(suite + ": " + right + " answers as due, " + wrong + " not");
         if (wrong > 0) {

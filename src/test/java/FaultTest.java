@@ -27,14 +27,7 @@ public final class FaultTest {
     }
 
     private static void wrong(String text, int manner, int fault, int line, int place) {
-        GraphTexts x = new GraphTexts();
-        x.manner(manner);
-        String what = "read of <" + text + ">";
-        C.same(what, Checks.read(x, text), -10 - fault);
-        C.same(what + " LINE", x.fault(0), line);
-        C.same(what + " PLACE", x.fault(1), place);
-        C.same(what + " bytes left", x.about(0), 0);
-        C.same(what + " print", x.print(), GraphTexts.STATE);
+        C.wrong(text, manner, fault, line, place);
     }
 
     private static void right(String text, int arcs) {
@@ -42,13 +35,7 @@ public final class FaultTest {
     }
 
     private static void right(String text, int manner, int arcs) {
-        GraphTexts x = new GraphTexts();
-        x.manner(manner);
-        String what = "read of <" + text + ">";
-        C.same(what, Checks.read(x, text), arcs);
-        C.same(what + " LINE", x.fault(0), GraphTexts.NONE);
-        C.same(what + " PLACE", x.fault(1), GraphTexts.NONE);
-        C.same(what + " bytes left", x.about(0), 0);
+        C.right(text, manner, arcs);
     }
 
     private static void value(char kind, String word, int fault, int placeInWord) {
