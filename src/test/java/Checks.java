@@ -77,6 +77,18 @@ final class Checks {
         right(text, 0, arcs);
     }
 
+    /** The object reads the text as the grammar's second telling tells. */
+    Grammar asTold(GraphTexts x, String text, int manner) {
+        Grammar due = new Grammar(text, manner);
+        x.manner(manner);
+        String what = "manner " + manner + " <" + text + ">";
+        boolean right = due.fault == 0;
+        same("read " + what, read(x, text), right ? due.arcs : -10 - due.fault);
+        same("LINE " + what, x.fault(0), right ? GraphTexts.NONE : due.line);
+        same("PLACE " + what, x.fault(1), right ? GraphTexts.NONE : due.place);
+        return due;
+    }
+
     void end() {
         System.out.println(suite + ": " + right + " answers as due, " + wrong + " not");
         if (wrong > 0) {

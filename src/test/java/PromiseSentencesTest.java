@@ -58,8 +58,12 @@ public final class PromiseSentencesTest {
         GraphTexts x = Checks.reading("a b\n# x\na b\n# y\nb a", 1);
         C.same("what is LEFT OUT is not WRITTEN", Checks.written(x), "a b\n# x\n# y\nb a\n");
         writtenAs("#\n".repeat(300), "#\n".repeat(300));
-        String most = "% a g\n% b g\n% c g\na a x x x\n" + "a a -5 -5 -5\n".repeat(39) + "#".repeat(21) + "\n#";
-        writtenAs(most, "% a t\n% b t\n% c t\na a x x x\n" + "a a \"-5\" \"-5\" \"-5\"\n".repeat(39) + "#".repeat(21) + "\n#\n");
+        // 600 bytes that grow most: one NAME in each guessed COLUMN makes all its numbers NAMES, which need quotes.
+        String comment = "#" + "~".repeat(20);
+        String most = "% a g\n% b g\n% c g\na a x x x\n" + "a a -5 -5 -5\n".repeat(39) + (comment + "\n").repeat(2) + comment;
+        C.same("bytes that grow", most.length(), 600);
+        writtenAs(most, "% a t\n% b t\n% c t\na a x x x\n" + "a a \"-5\" \"-5\" \"-5\"\n".repeat(39)
+            + (comment + "\n").repeat(3));
     }
 
     private static void writtenNames() {

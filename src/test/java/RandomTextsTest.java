@@ -1,31 +1,19 @@
-import java.util.ArrayList;
-import java.util.HashMap;
-import java.util.HashSet;
-import java.util.List;
-import java.util.Map;
 import java.util.Random;
-import java.util.Set;
-import java.util.regex.Pattern;
 
 /**
- * Many texts, right and nearly right, from a fixed seed: what is accepted is what the grammar, told once more by
- * patterns, accepts; what is WRITTEN is read to the same; and no call throws but by its own throw.
+ * Many texts, right and nearly right, from a fixed seed: each is read as the grammar, told once more by patterns, tells
+ * (how many ARCS, or the FAULT with LINE and PLACE); what is WRITTEN is read to the same; and no call throws but by its
+ * own throw.
  */
 public final class RandomTextsTest {
     private static final Checks C = new Checks("RandomTextsTest");
-    private static final String SIGN = "(?:[ !#-\\[\\]-~]|\\\\[\"\\\\])";
-    private static final String NAME = "(?:[a-z0-9_]{1,8}|\"" + SIGN + "{1,8}\")";
-    private static final String WHOLE = "(?:0|-?[1-9][0-9]{0,5})";
-    private static final String DECIMAL = "(?:-?(?:0|[1-9][0-9]{0,2})\\.[0-9]{1,3})";
-    private static final Pattern COMMENT = Pattern.compile(" *#[ -~]{0,20}");
-    private static final Pattern COUNT = Pattern.compile(" *! +([0-9]{1,2}) +([0-9]{1,2}) *");
-    private static final Pattern HEAD = Pattern.compile(" *% +(" + NAME + ") +([wdtg]) *");
+    // How many texts had no FAULT (0), had each of the FAULTS.
+    private static final int[] READ_WITH = new int[8];
 
     public static void main(String[] args) {
         Random random = new Random(20261116);
         GraphTexts used = new GraphTexts();
         String usedGraph = "";
-        int accepted = 0;
         for (int round = 0; round < 60000; round++) {
             String text = text(random);
             for (int k = random.nextInt(3); k > 0; k--) {
@@ -35,38 +23,39 @@ public final class RandomTextsTest {
                 continue;
             }
             int manner = random.nextInt(3);
-            accepted += tryText(text, manner, random);
+            tryText(text, manner, random);
             if (round % 5 == 0) {
                 used = new GraphTexts();
                 usedGraph = "";
             }
             usedGraph = tryAgain(used, usedGraph, text, manner);
         }
-        C.same("enough texts are accepted", accepted > 10000 ? 1 : 0, 1);
+        C.same("enough texts are right", READ_WITH[0] > 10000 ? 1 : 0, 1);
+        for (int fault = 1; fault <= 7; fault++) {
+            C.same("enough texts have FAULT " + fault, READ_WITH[fault] >= 100 ? 1 : 0, 1);
+        }
         C.end();
     }
 
-    private static int tryText(String text, int manner, Random random) {
+    private static void tryText(String text, int manner, Random random) {
         GraphTexts x = new GraphTexts();
-        x.manner(manner);
-        int answer = Checks.read(x, text);
+        Grammar due = C.asTold(x, text, manner);
         String what = "manner " + manner + " <" + text + ">";
-        C.same("accepted " + what, answer >= 0 ? 1 : 0, accepts(text, manner) ? 1 : 0);
-        if (answer < 0) {
-            faultLiesInside(x, text, answer, what);
-            return 0;
+        READ_WITH[due.fault]++;
+        if (due.fault > 0) {
+            C.same("no GRAPH " + what, x.print(), GraphTexts.STATE);
+            return;
         }
         String graph = Checks.graph(x);
         String written = Checks.written(x);
         if (written.length() <= 600) {
             GraphTexts y = new GraphTexts();
             y.manner(manner);
-            C.same("read again " + what, Checks.read(y, written), answer);
+            C.same("read again " + what, Checks.read(y, written), due.arcs);
             C.same("the same GRAPH " + what, Checks.graph(y), graph);
             C.same("the same WRITTEN " + what, Checks.written(y), written);
         }
         randomCalls(x, random);
-        return 1;
     }
 
     /** An object that has read before reads as a new one does, and keeps its GRAPH when there is a FAULT. */
@@ -89,16 +78,6 @@ public final class RandomTextsTest {
             }
         }
         return graph;
-    }
-
-    private static void faultLiesInside(GraphTexts x, String text, int answer, String what) {
-        C.same("a FAULT 1 .. 7 " + what, answer <= -11 && answer >= -17 ? 1 : 0, 1);
-        String[] lines = text.split("\n", -1);
-        int line = x.fault(0);
-        boolean inside = line >= 1 && line <= lines.length
-            && x.fault(1) >= 1 && x.fault(1) <= lines[line - 1].length() + 1;
-        C.same("LINE and PLACE inside " + what, inside ? 1 : 0, 1);
-        C.same("no GRAPH " + what, x.print(), GraphTexts.STATE);
     }
 
     private static void randomCalls(GraphTexts x, Random random) {
@@ -127,74 +106,6 @@ public final class RandomTextsTest {
 
     private static int any(Random random) {
         return random.nextInt(20) == 0 ? random.nextInt() : random.nextInt(12) - 2;
-    }
-
-    private static boolean accepts(String text, int manner) {
-        List<String> heads = new ArrayList<>();
-        List<String> kinds = new ArrayList<>();
-        Set<String> nodes = new HashSet<>();
-        Map<String, Integer> arcs = new HashMap<>();
-        int arcCount = 0;
-        boolean arcSeen = false;
-        int[] told = null;
-        for (String line : text.split("\n", -1)) {
-            var count = COUNT.matcher(line);
-            var head = HEAD.matcher(line);
-            if (line.isBlank() && line.matches(" *") || COMMENT.matcher(line).matches()) {
-                continue;
-            }
-            if (count.matches()) {
-                if (told != null) {
-                    return false;
-                }
-                told = new int[] {Integer.parseInt(count.group(1)), Integer.parseInt(count.group(2))};
-            } else if (head.matches()) {
-                String name = bare(head.group(1));
-                if (arcSeen || heads.size() == 3 || heads.contains(name)) {
-                    return false;
-                }
-                heads.add(name);
-                kinds.add(head.group(2));
-            } else {
-                var arc = arcPattern(kinds).matcher(line);
-                if (!arc.matches()) {
-                    return false;
-                }
-                arcSeen = true;
-                String from = bare(arc.group(1));
-                String to = bare(arc.group(2));
-                nodes.add(from);
-                nodes.add(to);
-                boolean doubled = arcs.put(from + "\n" + to, 1) != null;
-                if (doubled && manner == 2) {
-                    return false;
-                }
-                arcCount += doubled && manner == 1 ? 0 : 1;
-                if (nodes.size() > 30 || arcCount > 40) {
-                    return false;
-                }
-            }
-        }
-        return told == null || told[0] == nodes.size() && told[1] == arcCount;
-    }
-
-    private static Pattern arcPattern(List<String> kinds) {
-        StringBuilder all = new StringBuilder(" *(" + NAME + ") +(" + NAME + ")");
-        for (String kind : kinds) {
-            String value = switch (kind) {
-                case "w" -> WHOLE;
-                case "d" -> WHOLE + "|" + DECIMAL;
-                case "t" -> NAME;
-                default -> WHOLE + "|" + DECIMAL + "|" + NAME;
-            };
-            all.append(" +(?:-|").append(value).append(")");
-        }
-        return Pattern.compile(all.append(" *").toString());
-    }
-
-    private static String bare(String word) {
-        return word.startsWith("\"")
-            ? word.substring(1, word.length() - 1).replaceAll("\\\\(.)", "$1") : word;
     }
 
     private static String text(Random random) {

@@ -67,6 +67,12 @@ public final class ReadSentencesTest {
         C.same("ARC 39", forty.arc(39, 2), 40);
         C.same("no ARC 40", forty.arc(40, 2), GraphTexts.UNKNOWN);
         C.wrong(arcs(41), FULL, 41, 1);
+        GraphTexts wide = Checks.reading("% x w\n% y d\n% z t\n" + "a a 1 2 x\n".repeat(39) + "b b 7 0.5 last");
+        C.same("40 ARCS with 3 COLUMNS", wide.about(2), 40);
+        C.same("VALUE 0 of ARC 39", wide.value(39, 0), 7000);
+        C.same("VALUE 1 of ARC 39", wide.value(39, 1), 500);
+        C.same("VALUE 2 of ARC 39", Checks.valueName(wide, 39, 2), "last");
+        C.same("MISSING ones of ARC 39", wide.arc(39, 3), 0);
     }
 
     private static void manners() {
@@ -87,6 +93,9 @@ public final class ReadSentencesTest {
             C.same("VALUE of ARC " + arc, x.value(arc, 0), 1000 * (arc + 1));
         }
         C.same("there is no other ARC", x.arc(4, 0), GraphTexts.UNKNOWN);
+        GraphTexts names = Checks.reading("% c t\n% d d\na b one 1\na b two 2\nb a three 3\nb a - -\nb b four -", LEFT_OUT);
+        C.same("VALUES of the ARCS that are left", Checks.graph(names), "node a\nnode b\ncolumn c 2\ncolumn d 1\n"
+            + "arc 0 1 0 name <one> 1000\narc 1 0 0 name <three> 3000\narc 1 1 1 name <four> missing\n");
         C.right("a b\nb a\na a\nb b\na c\nc b", WRONG, 6);
         C.right("a b\n".repeat(41), LEFT_OUT, 1);
     }
@@ -380,5 +389,35 @@ public final class ReadSentencesTest {
             C.same("what was read, and no more", Checks.graph(x), "node c\nnode d\narc 0 1 0\n");
         }
         C.same("the empty TEXT is read to a GRAPH", new GraphTexts().read(), 0);
+        String[] texts = {"", "a b", "! 3 2\n\na b\nb c", "#x\n% k t\na b long\na b -\nb a y", "% m g\n% n g\nx y 1 2.5",
+            "% o d\n\n#\nz z 0.001\nz z 2", "a b\n% x w"};
+        for (String first : texts) {
+            for (String second : texts) {
+                for (String third : texts) {
+                    readOneBehindTheOther(first, second, third);
+                }
+            }
+        }
+    }
+
+    /** An object that has read before tells what a new one tells. */
+    private static void readOneBehindTheOther(String first, String second, String third) {
+        GraphTexts used = Checks.reading(first, LEFT_OUT);
+        Checks.read(used, second);
+        boolean wrong = Checks.read(used, third) < 0;
+        GraphTexts fresh = Checks.reading(first, LEFT_OUT);
+        if (Checks.read(Checks.reading("", LEFT_OUT), second) >= 0) {
+            fresh = Checks.reading(second, LEFT_OUT);
+        }
+        if (!wrong) {
+            fresh = Checks.reading(third, LEFT_OUT);
+        }
+        String what = "<" + third + "> behind <" + second + "> behind <" + first + ">";
+        C.same(what, Checks.graph(used), Checks.graph(fresh));
+        C.same(what + " WRITTEN", Checks.written(used), Checks.written(fresh));
+        C.same(what + " LEFT OUT", used.about(4), fresh.about(4));
+        for (int arc = 0; arc < fresh.about(2); arc++) {
+            C.same(what + " LINE of ARC " + arc, used.arc(arc, 2), fresh.arc(arc, 2));
+        }
     }
 }
