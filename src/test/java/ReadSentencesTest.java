@@ -73,6 +73,9 @@ public final class ReadSentencesTest {
         C.same("VALUE 1 of ARC 39", wide.value(39, 1), 500);
         C.same("VALUE 2 of ARC 39", Checks.valueName(wide, 39, 2), "last");
         C.same("MISSING ones of ARC 39", wide.arc(39, 3), 0);
+        GraphTexts gaps = Checks.reading("% x w\n% y d\n% z t\n" + "a a - - -\n".repeat(40));
+        C.same("MISSING ones of the 40th of such ARCS", gaps.arc(39, 3), 3);
+        C.thrown("its last VALUE", NullPointerException.class, () -> gaps.value(39, 2));
     }
 
     private static void manners() {
@@ -389,6 +392,13 @@ public final class ReadSentencesTest {
             C.same("what was read, and no more", Checks.graph(x), "node c\nnode d\narc 0 1 0\n");
         }
         C.same("the empty TEXT is read to a GRAPH", new GraphTexts().read(), 0);
+        GraphTexts full = new GraphTexts();
+        for (char sign = 'a'; sign <= 'f'; sign++) {
+            String line = "#" + ("" + sign).repeat(20) + "\n";
+            C.same("nearly 600 bytes again", Checks.read(full, line.repeat(27)), 0);
+            C.same("all COMMENTS", full.about(5), 27);
+            C.same("the last byte", full.comment(26, 19), sign);
+        }
         String[] texts = {"", "a b", "! 3 2\n\na b\nb c", "#x\n% k t\na b long\na b -\nb a y", "% m g\n% n g\nx y 1 2.5",
             "% o d\n\n#\nz z 0.001\nz z 2", "a b\n% x w"};
         for (String first : texts) {
