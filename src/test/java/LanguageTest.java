@@ -32,6 +32,7 @@ public final class LanguageTest {
         }
         thrown(code);
         List<String> lines = code.lines().toList();
+        made(lines);
         classes(lines);
         methods(lines);
         C.end();
@@ -43,6 +44,28 @@ public final class LanguageTest {
             Matcher form = Pattern.compile(" new (\\w+)\\(TEXT\\);").matcher(all.group(1));
             C.same("throw" + all.group(1), form.matches() && THROWN.contains(form.group(1)) ? 1 : 0, 1);
         }
+    }
+
+    /** All calls of a run live in one room, so nothing but an exception is made once an object stands. */
+    private static void made(List<String> lines) {
+        Pattern constructor = Pattern.compile("^( {4}public | {8})[A-Z]\\w*\\(.*\\{$");
+        String end = "";
+        int inConstructors = 0;
+        for (String line : lines) {
+            Matcher begins = constructor.matcher(line);
+            if (begins.matches()) {
+                end = begins.group(1).replace("public ", "") + "}";
+            } else if (line.equals(end)) {
+                end = "";
+            }
+            boolean makes = Pattern.compile("\\bnew\\b").matcher(line).find();
+            inConstructors += makes && !end.isEmpty() ? 1 : 0;
+            if (makes && end.isEmpty()) {
+                C.same("made by a call: " + line.trim(), line.trim().startsWith("throw new ") ? 1 : 0, 1);
+            }
+        }
+        C.same("what constructors make is seen", inConstructors > 10 ? 1 : 0, 1);
+        C.same("the last constructor's end is seen", end, "");
     }
 
     private static void classes(List<String> lines) {
